@@ -336,7 +336,7 @@ public final class JsonShelf {
                         next = b == '}' ? close(b) : name(b);
                         break;
                     case COLON:
-                        next = b == ':' ? pass(b, VALUE) : breakAt(at);
+                        next = colon(b);
                         break;
                     default:
                         next = behindValue(b);
@@ -360,10 +360,9 @@ public final class JsonShelf {
             }
         }
 
-        private int pass(int b, int next) {
+        private void pass(int b) {
             printed.add(b);
             at++;
-            return next;
         }
 
         private int breakAt(int where) {
@@ -396,9 +395,18 @@ public final class JsonShelf {
             }
             boolean inArray = opened[depth - 1] == '[';
             if (b == ',') {
-                return pass(b, inArray ? VALUE : NAME);
+                pass(b);
+                return inArray ? VALUE : NAME;
             }
             return b == (inArray ? ']' : '}') ? close(b) : breakAt(at);
+        }
+
+        private int colon(int b) {
+            if (b != ':') {
+                return breakAt(at);
+            }
+            pass(b);
+            return VALUE;
         }
 
         private int open(int b, int next) {
@@ -408,7 +416,8 @@ public final class JsonShelf {
             opened[depth] = (byte) b;
             namesBefore[depth] = names.size();
             depth++;
-            return pass(b, next);
+            pass(b);
+            return next;
         }
 
         private int close(int b) {
@@ -416,7 +425,8 @@ public final class JsonShelf {
                 depth--;
                 names.keep(namesBefore[depth]);
             }
-            return pass(b, BEHIND_VALUE);
+            pass(b);
+            return BEHIND_VALUE;
         }
 
         private int literal(String letters) {
@@ -424,7 +434,7 @@ public final class JsonShelf {
                 if (tape.at(at) != letters.charAt(i)) {
                     return breakAt(at);
                 }
-                pass(letters.charAt(i), STOP);
+                pass(letters.charAt(i));
             }
             return BEHIND_VALUE;
         }
@@ -486,11 +496,12 @@ public final class JsonShelf {
         }
 
         private int string(int next) {
-            pass('"', STOP);
+            pass('"');
             // Every round takes a byte of the tape at least.
             for (int rounds = 0; rounds < TEXT_LIMIT && at < tape.length(); rounds++) {
                 if (tape.at(at) == '"') {
-                    return pass('"', next);
+                    pass('"');
+                    return next;
                 }
                 if (!character()) {
                     return STOP;
@@ -617,7 +628,7 @@ public final class JsonShelf {
         }
 
         private static int hexDigit(int b) {
-            if (isDigit(b)) {
+            if (b >= '0' && b <= '9') {
                 return b - '0';
             }
             if (b >= 'a' && b <= 'f') {

@@ -38,25 +38,22 @@ final class Desk {
         return text.getBytes(StandardCharsets.ISO_8859_1);
     }
 
-    /** Puts the text behind what is on the tape: at most 4096 bytes in all, filled up with zeros at first. */
+    /** Puts the text behind what is on the tape; the odd bytes go first, so that 4096 can be reached. */
     Desk feed(String text) {
         byte[] row = bytes(text);
-        int before = shelf.count(0);
-        for (int at = 0; at < row.length; at += 20) {
-            shelf.feed(four(row, at), four(row, at + 4), four(row, at + 8),
-                four(row, at + 12), four(row, at + 16));
+        int odd = row.length % 20;
+        if (odd > 0) {
+            feedFrom(row, 0);
+            shelf.end(shelf.count(0) - 20 + odd);
         }
-        shelf.end(before + row.length);
+        for (int at = odd; at < row.length; at += 20) {
+            feedFrom(row, at);
+        }
         return this;
     }
 
-    /** A tape of exactly 4096 bytes needs a first step that is no multiple of 20. */
-    Desk feedFull(String text) {
-        if (text.length() != 4096) {
-            throw new IllegalArgumentException("4096 bytes are asked for");
-        }
-        feed(text.substring(0, 16));
-        return feed(text.substring(16));
+    private void feedFrom(byte[] row, int at) {
+        shelf.feed(four(row, at), four(row, at + 4), four(row, at + 8), four(row, at + 12), four(row, at + 16));
     }
 
     private static int four(byte[] row, int at) {
@@ -80,8 +77,14 @@ final class Desk {
 
     String result(int length) {
         StringBuilder text = new StringBuilder();
+        long word = 0;
         for (int i = 0; i < length; i++) {
-            text.append((char) (shelf.word(i) >>> 56));
+            // An object's calls are counted: one word is asked for eight bytes.
+            if (i % 8 == 0) {
+                word = shelf.word(i);
+            }
+            text.append((char) (word >>> 56));
+            word <<= 8;
         }
         return text.toString();
     }
@@ -89,11 +92,7 @@ final class Desk {
     /** The text is refused at the place, on a new object. */
     static void refused(String text, int place) {
         Desk desk = new Desk().read(3, "[7]");
-        if (text.length() == 4096) {
-            desk.feedFull(text);
-        } else {
-            desk.feed(text);
-        }
+        desk.feed(text);
         String what = shown(text);
         due("read of " + what, "UnsupportedOperationException", outcome(() -> desk.shelf.read(3)));
         due("PLACE of " + what, place, desk.shelf.count(2));
@@ -104,11 +103,7 @@ final class Desk {
     /** The text is taken, and PRINTED so, on a new object. */
     static void taken(String text, String printed) {
         Desk desk = new Desk();
-        if (text.length() == 4096) {
-            desk.feedFull(text);
-        } else {
-            desk.feed(text);
-        }
+        desk.feed(text);
         String what = shown(text);
         due("read of " + what, printed.length(), outcome(() -> desk.shelf.read(5)));
         due("PLACE of " + what, -1, desk.shelf.count(2));

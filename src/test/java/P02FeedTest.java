@@ -39,7 +39,7 @@ public final class P02FeedTest {
     private static void theTapeCanBeFull() {
         Desk desk = new Desk();
         String text = "\"" + "x".repeat(4094) + "\"";
-        desk.feedFull(text);
+        desk.feed(text);
         Desk.due("a full tape", 4096, desk.shelf.count(0));
         Desk.due("feed to a full tape", "IndexOutOfBoundsException", Desk.outcome(() -> desk.shelf.feed(0, 0, 0, 0, 0)));
         Desk.due("read of a full tape", 4096, desk.shelf.read(7));
