@@ -1,6 +1,23 @@
-/** Promise 6: same compares values, names in any order. */
+/** Promise 6: same. */
 public final class P06SameTest {
     public static void main(String[] args) {
+        Desk.sentence("Whether two are the same", P06SameTest::eachIsTheSameAsItselfAlone);
+        Desk.sentence("NUMBERS by value", P06SameTest::numbers);
+        Desk.sentence("STRINGS by UNITS", P06SameTest::strings);
+        Desk.sentence("{ } by names in any order", P06SameTest::orderOfNames);
+        Desk.sentence("throws IllegalArgumentException, IllegalStateException", P06SameTest::wrongInputs);
+        Desk.close();
+    }
+
+    private static void compared(String a, String b, boolean same) {
+        Desk desk = new Desk().read(1, a);
+        desk.read(6, b);
+        Desk.due("same " + Desk.shown(a) + " and " + Desk.shown(b), same, desk.shelf.same(1, 6));
+        Desk.due("same " + Desk.shown(b) + " and " + Desk.shown(a), same, desk.shelf.same(6, 1));
+        Desk.due("same as itself", true, desk.shelf.same(1, 1));
+    }
+
+    private static void eachIsTheSameAsItselfAlone() {
         String[] different = {
             "null", "false", "true", "0", "1", "-1", "10", "9007199254740991", "-9007199254740991",
             "\"\"", "\"a\"", "\"A\"", "\"ab\"", "\"null\"", "\"0\"", "\"\\u0000\"", "\"\\\\u0000\"",
@@ -14,26 +31,37 @@ public final class P06SameTest {
                 compared(different[i], different[k], i == k);
             }
         }
-        compared("-0", "0", true);
-        compared("\"\\u0041\\/\\u000A\"", "\"A/\\n\"", true);
         compared(" [ 1 , { } ] ", "[1,{}]", true);
-        orderOfNames();
-        edges();
-        wrongInputs();
-        Desk.close();
+        greatValues();
     }
 
-    private static void compared(String a, String b, boolean same) {
-        Desk desk = new Desk().read(1, a).read(6, b);
-        Desk.due("same " + Desk.shown(a) + " and " + Desk.shown(b), same, desk.shelf.same(1, 6));
-        Desk.due("same " + Desk.shown(b) + " and " + Desk.shown(a), same, desk.shelf.same(6, 1));
-        Desk.due("same as itself", true, desk.shelf.same(1, 1));
+    private static void numbers() {
+        compared("-0", "0", true);
+        compared("[-0]", "[0]", true);
+        compared("9007199254740991", "9007199254740991", true);
+        compared("9007199254740991", "9007199254740990", false);
+        compared("-9007199254740991", "9007199254740991", false);
+        // As ints these would be the same.
+        compared("4294967296", "0", false);
+        compared("4294967295", "-1", false);
+    }
+
+    private static void strings() {
+        compared("\"\\u0041\\/\\u000A\"", "\"A/\\n\"", true);
+        compared("\"\\uD83D\\uDE00\"", "\"\\ud83d\\ude00\"", true);
+        compared("\"\\u0000\"", "\"\"", false);
+        compared("\"\\u0100\"", "\"\\u0000\"", false);
+        compared("\"\\\\n\"", "\"\\n\"", false);
+        compared("\"a\"", "\"a \"", false);
+        compared("\"Aa\"", "\"BB\"", false);
+        compared("\"\\ud83d\\ude00\"", "\"\\ud83d\\udc00\"", false);
     }
 
     private static void orderOfNames() {
         compared("{\"a\":1,\"b\":2,\"c\":3}", "{\"c\":3,\"a\":1,\"b\":2}", true);
         compared("{\"a\":1,\"b\":2,\"c\":3}", "{\"c\":3,\"a\":2,\"b\":1}", false);
         compared("{\"a\":1,\"b\":2}", "{\"b\":2,\"c\":1}", false);
+        compared("{\"a\":1,\"b\":2}", "{\"b\":2}", false);
         compared("{\"a\":{\"x\":[1,{\"p\":0,\"q\":1}],\"y\":2},\"b\":\"\"}",
             "{\"b\":\"\",\"a\":{\"y\":2,\"x\":[1,{\"q\":1,\"p\":0}]}}", true);
         compared("{\"a\":{\"x\":[1,{\"p\":0,\"q\":1}],\"y\":2},\"b\":\"\"}",
@@ -41,10 +69,11 @@ public final class P06SameTest {
         compared("{\"Aa\":1,\"BB\":2}", "{\"BB\":2,\"Aa\":1}", true);
         compared("{\"Aa\":1,\"BB\":2}", "{\"BB\":1,\"Aa\":2}", false);
         compared("{\"\\u00e9\":1,\"\":2}", "{\"\":2,\"\\u00E9\":1}", true);
+        // The order within [ ] counts.
         compared("[{\"a\":1},{\"b\":2}]", "[{\"b\":2},{\"a\":1}]", false);
     }
 
-    private static void edges() {
+    private static void greatValues() {
         String deep = "{\"a\":0,\"b\":".repeat(32) + "7" + "}".repeat(32);
         String turned = "{\"b\":".repeat(32) + "7" + ",\"a\":0}".repeat(32);
         compared(deep, turned, true);
@@ -58,21 +87,23 @@ public final class P06SameTest {
         }
         compared("{" + up + "}", "{" + down + "}", true);
         compared("{" + up + "}", "{" + down.toString().replace("\"0\":0", "\"0\":1") + "}", false);
-        String ones = "[" + "1,".repeat(2030) + "1]";
+        String ones = "[" + "1,".repeat(2046) + "1]";
         compared(ones, ones, true);
         compared(ones, ones.substring(0, ones.length() - 2) + "2]", false);
+        String full = Desk.stringOf(4096);
+        compared(full, full, true);
+        compared(full, full.substring(0, 4094) + "!\"", false);
     }
 
     private static void wrongInputs() {
         Desk desk = new Desk().read(0, "1");
-        JsonShelf shelf = desk.shelf;
-        Desk.due("same(0, 7)", "IllegalStateException", Desk.outcome(() -> shelf.same(0, 7)));
-        Desk.due("same(7, 0)", "IllegalStateException", Desk.outcome(() -> shelf.same(7, 0)));
-        Desk.due("same(7, 7)", "IllegalStateException", Desk.outcome(() -> shelf.same(7, 7)));
-        for (int slot : new int[] {-1, 8, Integer.MIN_VALUE, Integer.MAX_VALUE}) {
-            Desk.due("same(0, " + slot + ")", "IllegalArgumentException", Desk.outcome(() -> shelf.same(0, slot)));
-            Desk.due("same(7, " + slot + ")", "IllegalArgumentException", Desk.outcome(() -> shelf.same(7, slot)));
-            Desk.due("same(" + slot + ", 7)", "IllegalArgumentException", Desk.outcome(() -> shelf.same(slot, 7)));
+        Desk.thrown("same(0, 7)", Desk.STATE, () -> desk.shelf.same(0, 7));
+        Desk.thrown("same(7, 0)", Desk.STATE, () -> desk.shelf.same(7, 0));
+        Desk.thrown("same(7, 7)", Desk.STATE, () -> desk.shelf.same(7, 7));
+        for (int no : Desk.NO_SLOTS) {
+            Desk.thrown("same(0, " + no + ")", Desk.ARGUMENT, () -> desk.shelf.same(0, no));
+            Desk.thrown("same(7, " + no + ")", Desk.ARGUMENT, () -> desk.shelf.same(7, no));
+            Desk.thrown("same(" + no + ", 7)", Desk.ARGUMENT, () -> desk.shelf.same(no, 7));
         }
         Desk.due("nothing changed", "1", desk.printed(0));
     }

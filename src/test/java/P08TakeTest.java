@@ -1,11 +1,13 @@
-/** Promise 8: take puts a part of a value into a slot. */
+/** Promise 8: take. */
 public final class P08TakeTest {
     public static void main(String[] args) {
-        partsOfArrays();
-        partsOfObjects();
-        aSlotFromItself();
-        noParts();
-        wrongInputs();
+        Desk.sentence("to holds what is in from at i, from 0, of [ ]", P08TakeTest::partsOfArrays);
+        Desk.sentence("or what the i-th name of { } has", P08TakeTest::partsOfObjects);
+        Desk.sentence("there is none: NoSuchElementException", P08TakeTest::behindTheLast);
+        Desk.sentence("(So for i below 0", P08TakeTest::belowZero);
+        Desk.sentence("and where from holds neither", P08TakeTest::neither);
+        Desk.sentence("to may be from.)", P08TakeTest::aSlotFromItself);
+        Desk.sentence("throws IllegalArgumentException, IllegalStateException", P08TakeTest::wrongInputs);
         Desk.close();
     }
 
@@ -24,6 +26,11 @@ public final class P08TakeTest {
             Desk.due("part " + i, parts[i], part(desk, 1, 0, i));
         }
         Desk.due("the whole stays", text, desk.printed(0));
+        Desk ones = new Desk().read(0, "[" + "1,".repeat(2046) + "2]");
+        Desk.due("the first of 2047", "1", part(ones, 1, 0, 0));
+        Desk.due("the last but one of 2047", "1", part(ones, 1, 0, 2045));
+        Desk.due("the last of 2047", "2", part(ones, 1, 0, 2046));
+        Desk.due("behind the last of 2047", Desk.NO_ELEMENT, part(ones, 1, 0, 2047));
     }
 
     private static void partsOfObjects() {
@@ -32,7 +39,43 @@ public final class P08TakeTest {
         Desk.due("the second name", "{\"q\":[1,2]}", part(desk, 0, 7, 1));
         Desk.due("the third name", "\"a\"", part(desk, 0, 7, 2));
         Desk.due("the last name", "\":\"", part(desk, 0, 7, 3));
-        Desk.due("behind the last", "NoSuchElementException", part(desk, 0, 7, 4));
+        Desk.due("behind the last", Desk.NO_ELEMENT, part(desk, 0, 7, 4));
+    }
+
+    private static void noneAt(String text, int... places) {
+        Desk desk = new Desk().read(0, text).read(1, "77");
+        for (int i : places) {
+            Desk.due(text + " at " + i, Desk.NO_ELEMENT, part(desk, 1, 0, i));
+            Desk.due(text + " at " + i + " to none", Desk.NO_ELEMENT, part(desk, 2, 0, i));
+            Desk.due(text + " at " + i + " to itself", Desk.NO_ELEMENT, part(desk, 0, 0, i));
+        }
+        Desk.due("from stays", text, desk.printed(0));
+        Desk.due("to stays", "77", desk.printed(1));
+        Desk.thrown("what held none stays", Desk.STATE, () -> desk.shelf.print(2));
+    }
+
+    private static void behindTheLast() {
+        noneAt("[]", 0, 1, Integer.MAX_VALUE);
+        noneAt("{}", 0, 1, Integer.MAX_VALUE);
+        noneAt("[5]", 1, 2, Integer.MAX_VALUE);
+        noneAt("[5,6]", 2, 3, 256, Integer.MAX_VALUE);
+        noneAt("{\"a\":5}", 1, 2, Integer.MAX_VALUE);
+        // Those within a part are not in it.
+        noneAt("[[1,2,3]]", 1, 2, 3);
+        noneAt("{\"a\":{\"b\":1,\"c\":2}}", 1, 2);
+    }
+
+    private static void belowZero() {
+        noneAt("[5,6]", -1, -2, Integer.MIN_VALUE);
+        noneAt("{\"a\":5}", -1, -2, Integer.MIN_VALUE);
+        noneAt("[]", -1);
+        noneAt("{}", -1);
+    }
+
+    private static void neither() {
+        for (String text : new String[] {"null", "true", "false", "12", "\"ab\"", "\"[1]\""}) {
+            noneAt(text, 0, 1, -1, Integer.MIN_VALUE, Integer.MAX_VALUE);
+        }
     }
 
     private static void aSlotFromItself() {
@@ -42,38 +85,27 @@ public final class P08TakeTest {
         Desk.due("three times", "[7,8,9]", part(desk, 3, 3, 2));
         Desk.due("size of it", 3L, desk.shelf.about(3, 1));
         Desk.due("four times", "8", part(desk, 3, 3, 1));
-        Desk.due("no more", "NoSuchElementException", part(desk, 3, 3, 0));
+        Desk.due("no more", Desk.NO_ELEMENT, part(desk, 3, 3, 0));
         Desk.due("the last stays", "8", desk.printed(3));
-        Desk full = new Desk().feed("[\"" + "x".repeat(4092) + "\"]");
-        full.shelf.read(0);
-        Desk.due("a great part", "\"" + "x".repeat(4092) + "\"", part(full, 0, 0, 0));
-    }
-
-    private static void noParts() {
-        String[] texts = {"null", "true", "false", "12", "\"ab\"", "[]", "{}"};
-        for (String text : texts) {
-            Desk desk = new Desk().read(0, text).read(1, "77");
-            for (int i : new int[] {0, 1, -1, Integer.MIN_VALUE, Integer.MAX_VALUE}) {
-                Desk.due(text + " at " + i, "NoSuchElementException", part(desk, 1, 0, i));
-            }
-            Desk.due("the target stays", "77", desk.printed(1));
+        String great = Desk.stringOf(2000);
+        Desk full = new Desk().read(0, "[" + great + "]");
+        Desk.due("a great part", great, part(full, 0, 0, 0));
+        Desk deep = new Desk().read(0, "[".repeat(32) + "]".repeat(32));
+        for (int depth = 31; depth > 0; depth--) {
+            Desk.due("inwards to " + depth, "[".repeat(depth) + "]".repeat(depth), part(deep, 0, 0, 0));
         }
-        Desk desk = new Desk().read(0, "[5,6]");
-        for (int i : new int[] {2, -1, Integer.MIN_VALUE, Integer.MAX_VALUE}) {
-            Desk.due("[5,6] at " + i, "NoSuchElementException", part(desk, 1, 0, i));
-        }
-        Desk.due("an empty target stays empty", "IllegalStateException", Desk.outcome(() -> desk.shelf.print(1)));
+        Desk.due("inwards to none", Desk.NO_ELEMENT, part(deep, 0, 0, 0));
     }
 
     private static void wrongInputs() {
         Desk desk = new Desk().read(0, "[1]");
-        for (int slot : new int[] {-1, 8, Integer.MIN_VALUE, Integer.MAX_VALUE}) {
-            Desk.due("to " + slot, "IllegalArgumentException", part(desk, slot, 0, 0));
-            Desk.due("from " + slot, "IllegalArgumentException", part(desk, 0, slot, 0));
-            Desk.due("to " + slot + " from none", "IllegalArgumentException", part(desk, slot, 7, -1));
+        for (int no : Desk.NO_SLOTS) {
+            Desk.due("to " + no, Desk.ARGUMENT, part(desk, no, 0, 0));
+            Desk.due("from " + no, Desk.ARGUMENT, part(desk, 0, no, 0));
+            Desk.due("to " + no + " from none", Desk.ARGUMENT, part(desk, no, 7, -1));
         }
-        Desk.due("from none", "IllegalStateException", part(desk, 0, 7, 0));
-        Desk.due("from none, below 0", "IllegalStateException", part(desk, 0, 7, -1));
+        Desk.due("from none", Desk.STATE, part(desk, 0, 7, 0));
+        Desk.due("from none, below 0", Desk.STATE, part(desk, 0, 7, -1));
         Desk.due("nothing changed", "[1]", desk.printed(0));
     }
 }

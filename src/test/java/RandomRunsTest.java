@@ -7,9 +7,12 @@ import java.util.Random;
 
 /** All promises together: runs of calls, always the same ones, on the class and on the model. */
 public final class RandomRunsTest {
+    private static final int TEXT_LIMIT = 1000;
+
     private final Random random;
     private final Desk desk = new Desk();
     private final Object[] slots = new Object[8];
+    private String tape = "";
     private String result = "";
     private int place = -1;
     private final int run;
@@ -21,7 +24,7 @@ public final class RandomRunsTest {
 
     public static void main(String[] args) {
         for (int run = 0; run < 6000; run++) {
-            new RandomRunsTest(run).calls(30);
+            new RandomRunsTest(run).calls();
         }
         Desk.close();
     }
@@ -30,19 +33,35 @@ public final class RandomRunsTest {
         Desk.due("run " + run + ", " + what, want, got);
     }
 
-    private void calls(int count) {
-        for (int i = 0; i < count; i++) {
-            switch (random.nextInt(6)) {
-                case 0, 1 -> read();
-                case 2 -> print();
-                case 3 -> same();
-                case 4 -> about();
+    // The dearest step, a read or a print of TEXT_LIMIT bytes, is still within the object's 512 calls.
+    private void calls() {
+        for (int i = 0; i < 40 && desk.shelf.calls() < CountedShelf.CALL_LIMIT - 200; i++) {
+            switch (random.nextInt(9)) {
+                case 0, 1, 2 -> read();
+                case 3 -> print();
+                case 4 -> same();
+                case 5 -> about();
+                case 6 -> feed();
+                case 7 -> end();
                 default -> take();
             }
-            due("count(0)", 0, desk.shelf.count(0));
+            due("count(0)", tape.length(), desk.shelf.count(0));
             due("count(1)", result.length(), desk.shelf.count(1));
             due("count(2)", place, desk.shelf.count(2));
         }
+    }
+
+    private void feed() {
+        String bytes = value(3) + " ".repeat(20);
+        desk.feed(bytes.substring(0, 20));
+        tape += bytes.substring(0, 20);
+    }
+
+    private void end() {
+        int n = random.nextInt(tape.length() + 3) - 1;
+        boolean fits = n >= 0 && n <= tape.length();
+        due("end(" + n + ")", fits ? n : Desk.ARGUMENT, Desk.outcome(() -> desk.shelf.end(n)));
+        tape = fits ? tape.substring(0, n) : tape;
     }
 
     private int slot() {
@@ -56,32 +75,36 @@ public final class RandomRunsTest {
     private String refusal(int... asked) {
         for (int slot : asked) {
             if (wrong(slot)) {
-                return "IllegalArgumentException";
+                return Desk.ARGUMENT;
             }
         }
         for (int slot : asked) {
             if (slots[slot] == null) {
-                return "IllegalStateException";
+                return Desk.STATE;
             }
         }
         return null;
     }
 
     private void read() {
-        String text = text();
-        int slot = random.nextInt(8);
-        desk.feed(text);
-        Object want;
+        String more = text();
+        String text = tape + more;
+        int slot = slot();
+        desk.feed(more);
+        tape = wrong(slot) ? text : "";
+        due("read(" + slot + ") of " + text, wrong(slot) ? Desk.ARGUMENT : readByModel(slot, text),
+            Desk.outcome(() -> desk.shelf.read(slot)));
+    }
+
+    private Object readByModel(int slot, String text) {
         try {
-            Object value = Model.parse(text);
+            slots[slot] = Model.parse(text);
             place = -1;
-            slots[slot] = value;
-            want = Model.printed(value).length();
+            return Model.printed(slots[slot]).length();
         } catch (Model.Broken broken) {
             place = broken.place;
-            want = "UnsupportedOperationException";
+            return Desk.UNSUPPORTED;
         }
-        due("read of " + text, want, Desk.outcome(() -> desk.shelf.read(slot)));
     }
 
     private void print() {
@@ -92,8 +115,8 @@ public final class RandomRunsTest {
         }
         due("print(" + slot + ")", refusal == null ? result.length() : refusal,
             Desk.outcome(() -> desk.shelf.print(slot)));
-        due("the result", result, desk.result(result.length()));
-        due("word behind it", "IndexOutOfBoundsException", Desk.outcome(() -> desk.shelf.word(result.length())));
+        due("the result", result, desk.result(0, result.length()));
+        due("word behind it", Desk.INDEX, Desk.outcome(() -> desk.shelf.word(result.length())));
     }
 
     private void same() {
@@ -107,7 +130,7 @@ public final class RandomRunsTest {
     private void about() {
         int slot = slot();
         int what = random.nextInt(10) == 0 ? 4 : random.nextInt(4);
-        String refusal = what > 3 ? "IllegalArgumentException" : refusal(slot);
+        String refusal = what > 3 ? Desk.ARGUMENT : refusal(slot);
         Object want = refusal;
         if (refusal == null) {
             Object value = slots[slot];
@@ -121,14 +144,14 @@ public final class RandomRunsTest {
         int to = slot();
         int from = slot();
         int i = random.nextInt(6) - 1;
-        Object want = wrong(to) ? "IllegalArgumentException" : refusal(from);
+        Object want = wrong(to) ? Desk.ARGUMENT : refusal(from);
         if (want == null) {
             List<Object> parts = Model.parts(slots[from]);
             if (i >= 0 && i < parts.size()) {
                 slots[to] = parts.get(i);
                 want = "taken";
             } else {
-                want = "NoSuchElementException";
+                want = Desk.NO_ELEMENT;
             }
         }
         due("take(" + to + ", " + from + ", " + i + ")", want, Desk.outcome(() -> {
@@ -144,7 +167,7 @@ public final class RandomRunsTest {
         for (int changes = random.nextInt(4) - 1; changes > 0 && bytes.length() > 0; changes--) {
             change(bytes);
         }
-        return bytes.substring(0, Math.min(bytes.length(), 4096));
+        return bytes.substring(0, Math.min(bytes.length(), Math.max(0, TEXT_LIMIT - tape.length())));
     }
 
     private void change(StringBuilder bytes) {
